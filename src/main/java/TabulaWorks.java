@@ -1382,8 +1382,9 @@ public final class TabulaWorks {
         final Values values = new Values();
         final int[] formulas = new int[PLACES];
         final int[] deep = new int[PLACES];
-        final Area area = new Area();
         int formulaCount;
+        private final Area area = new Area();
+        private final Tally tally = new Tally();
         private final int[] order = new int[PLACES];
         private int ordered;
         private final long[][] needs = new long[SHEETS][PLACES];
@@ -1658,47 +1659,24 @@ public final class TabulaWorks {
                 values.setError(place, LOST);
                 return;
             }
-            double sum = 0.0;
-            double least = 0.0;
-            double most = 0.0;
-            int count = 0;
+            tally.begin();
             for (int row = area.top; row <= area.bottom; row++) {
                 boolean isSeen = function != SHOWN || !book.hidden[area.sheet * ROWS + row];
                 for (int column = area.left; isSeen && column <= area.right; column++) {
                     int cell = area.placeAt(row, column);
                     if (values.isError(cell)) {
-                        values.setError(place, values.errorAt(cell));
+                        values.setError(place, values.kind[cell]);
                         return;
                     }
                     if (values.isDouble(cell)) {
-                        double met = values.number[cell];
-                        sum = sum + met;
-                        least = count == 0 || met < least ? met : least;
-                        most = count == 0 || met > most ? met : most;
-                        count++;
+                        tally.meet(values.number[cell]);
                     }
                 }
             }
-            if (function == MEAN && count == 0) {
+            if (function == MEAN && tally.count == 0) {
                 values.setError(place, DIVISION);
-                return;
-            }
-            switch (function) {
-                case COUNT:
-                    values.setMade(place, count);
-                    break;
-                case MEAN:
-                    values.setMade(place, sum / count);
-                    break;
-                case LEAST:
-                    values.setMade(place, least);
-                    break;
-                case MOST:
-                    values.setMade(place, most);
-                    break;
-                default:
-                    values.setMade(place, sum);
-                    break;
+            } else {
+                values.setMade(place, tally.made(function));
             }
         }
 
@@ -1722,6 +1700,43 @@ public final class TabulaWorks {
                 }
             }
             values.setError(place, MISSING);
+        }
+    }
+
+    /** What is met in a range, and what functions make of it. */
+    private static final class Tally {
+        int count;
+        private double sum;
+        private double least;
+        private double most;
+
+        void begin() {
+            count = 0;
+            sum = 0.0;
+            least = 0.0;
+            most = 0.0;
+        }
+
+        void meet(double met) {
+            sum = sum + met;
+            least = count == 0 || met < least ? met : least;
+            most = count == 0 || met > most ? met : most;
+            count++;
+        }
+
+        double made(int function) {
+            switch (function) {
+                case COUNT:
+                    return count;
+                case MEAN:
+                    return count == 0 ? 0.0 : sum / count;
+                case LEAST:
+                    return least;
+                case MOST:
+                    return most;
+                default:
+                    return sum;
+            }
         }
     }
 
@@ -1847,7 +1862,7 @@ public final class TabulaWorks {
         }
 
         private void writeDouble(double number, int digits) {
-            int scale = digits == 0 ? 1 : digits == 1 ? 10 : 100;
+            double scale = digits == 0 ? 1.0 : digits == 1 ? 10.0 : 100.0;
             long whole = nearest(scale * number);
             if (whole >= 1000000L || whole <= -1000000L) {
                 signs.append('#');
@@ -1857,15 +1872,17 @@ public final class TabulaWorks {
                 signs.append('-');
             }
             int size = (int) Math.abs(whole);
-            signs.append(size / scale);
-            if (digits > 0) {
+            if (digits == 0) {
+                signs.append(size);
+            } else if (digits == 1) {
+                signs.append(size / 10);
                 signs.append('.');
-            }
-            if (digits > 1) {
-                signs.append((char) ('0' + size / 10 % 10));
-            }
-            if (digits > 0) {
-                signs.append((char) ('0' + size % 10));
+                signs.append(size % 10);
+            } else {
+                signs.append(size / 100);
+                signs.append('.');
+                signs.append(size / 10 % 10);
+                signs.append(size % 10);
             }
         }
 

@@ -227,6 +227,9 @@ public final class AskedTest {
         for (int what = 0; what < 8; what++) {
             check.is(x.ofSheet(1, what), what < 6 ? 0 : -1);
         }
+        Check.put(x, "A1", 4);
+        check.is(x.ofSheet(0, 6) + x.ofSheet(0, 7), 0);
+        x.clear(0, 0);
         Check.put(x, "B1", 4);
         Check.tell(x, "A7", "=PLUS(N0,N0)");
         Check.tell(x, "C2", "=PLUS(1q,1q)");

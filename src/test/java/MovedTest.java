@@ -356,6 +356,14 @@ public final class MovedTest {
         check.is(x.sort(0, 1, 3, 0, false), 2);
         check.is(column(x, 1, 6), "0q 1q 3q 2q 4q 5q ");
         check.is(x.sort(0, 9, 9, 5, false), 0);
+        // The greatest error by its number stays ahead of nothing.
+        TabulaWorks y = new TabulaWorks();
+        Check.put(y, "B9", 100000);
+        Check.tell(y, "B8", "=TIMES(B9,B9)");
+        Check.tell(y, "A4", "=TIMES(B8,B8)");
+        Check.tell(y, "A3", "=FIND(E1:E2,1q)");
+        check.is(y.sort(0, 0, 3, 0, true), 4);
+        check.is(Check.error(y, "A1") + 10 * Check.error(y, "A2"), 54);
     }
 
     private static void sortsOfReferences() {
@@ -379,6 +387,14 @@ public final class MovedTest {
         check.is(Check.ask(x, "A1", 3), 0);
         check.is(x.ofName(0, 1), 0);
         check.is(Check.value(x, "B2"), 1.0);
+        TabulaWorks y = new TabulaWorks();
+        Check.put(y, "A7", 8);
+        Check.put(y, "A8", 4);
+        Check.tell(y, "B7", "=PLUS(A7,$A7)");
+        Check.tell(y, "F8", "=MEAN(E8:A$8)");
+        check.is(y.sort(0, 6, 7, 0, false), 2);
+        check.is(Check.words(y, "B8"), "=PLUS(A8,$A8)");
+        check.is(Check.words(y, "F7"), "=MEAN(E7:A$8)");
     }
 
     private static void sortsWhenHeld() {

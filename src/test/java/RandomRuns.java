@@ -15,12 +15,18 @@ public final class RandomRuns {
     private final int width;
     private final int height;
     private final boolean isWild;
+    private final boolean isGreat;
+    private final boolean isPlain;
+    private String last = "";
+    private int[] lastFormula = {0, 0, 0, 0, 0, 0};
 
     private RandomRuns(long seed) {
         random = new Random(seed);
         width = 2 + random.nextInt(5);
         height = 2 + random.nextInt(9);
         isWild = seed % 5 == 0;
+        isGreat = seed % 3 == 0;
+        isPlain = seed % 4 == 1;
     }
 
     private int bad(int good, int low, int high) {
@@ -52,7 +58,7 @@ public final class RandomRuns {
 
     private int quarters() {
         int kind = random.nextInt(10);
-        int told = kind == 0 ? random.nextInt(200001) - 100000 : kind < 4 ? 0 : random.nextInt(41) - 20;
+        int told = kind == 0 || isGreat && kind < 6 ? random.nextInt(200001) - 100000 : kind < 4 ? 0 : random.nextInt(41) - 20;
         return bad(told, -100000, 100000);
     }
 
@@ -113,17 +119,33 @@ public final class RandomRuns {
             case "group":
                 return new int[] {sheet(), column(), column(), bad(random.nextInt(4), 0, 9), bad(random.nextInt(3), 0, 2)};
             case "would":
-                return new int[] {sheet(), cell(), quarters(), sheet(), cell()};
+                int[] there = mostlyOfLastFormula();
+                return new int[] {there[0], there[1], quarters(), there[2], there[3]};
             case "goal":
-                return new int[] {sheet(), cell(), sheet(), cell(), quarters()};
+                int[] cells = mostlyOfLastFormula();
+                return new int[] {cells[0], cells[1], cells[2], cells[3], quarters()};
             default:
                 return new int[0];
         }
     }
 
+    /** A cell that the formula that was told last may need, and that formula's own. */
+    private int[] mostlyOfLastFormula() {
+        int code = lastFormula[3 + random.nextInt(3)];
+        if (code < 0 || code >= 480 || random.nextInt(4) == 0) {
+            return new int[] {sheet(), cell(), sheet(), cell()};
+        }
+        return new int[] {code / 60 % 2, code % 60, lastFormula[0], lastFormula[1]};
+    }
+
     private int[] formulaArguments() {
+        lastFormula = anyFormula();
+        return lastFormula;
+    }
+
+    private int[] anyFormula() {
         int sheet = random.nextInt(2);
-        int function = bad(random.nextInt(16), 0, 15);
+        int function = bad(isGreat && random.nextInt(3) == 0 ? 2 : random.nextInt(16), 0, 15);
         int one = operand(sheet);
         int two = operand(sheet);
         if (function >= 9 && random.nextInt(20) != 0) {
@@ -216,6 +238,18 @@ public final class RandomRuns {
         }
     }
 
+    private String nextCall() {
+        boolean isBack = last.equals("undo") || last.equals("redo");
+        last = isBack && random.nextInt(2) == 0 ? random.nextBoolean() ? "undo" : "redo" : anyCall();
+        if (isPlain && last.equals("formula") && random.nextInt(3) != 0) {
+            last = "number";
+        }
+        if (isPlain && last.equals("copy")) {
+            last = "group";
+        }
+        return last;
+    }
+
     private String anyCall() {
         int sum = 0;
         for (int weight : WEIGHTS) {
@@ -259,7 +293,7 @@ public final class RandomRuns {
         TabulaWorks x = new TabulaWorks();
         PlainModel y = new PlainModel();
         for (int nth = 0; nth < calls; nth++) {
-            String call = runs.anyCall();
+            String call = runs.nextCall();
             int[] a = runs.arguments(call);
             if (!isSame(call, a, onClass(x, call, a), onModel(y, call, a), seed, nth)) {
                 return false;

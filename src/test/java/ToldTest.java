@@ -310,6 +310,11 @@ public final class ToldTest {
         Check.tell(x, "A1", "=FIND(N1,$E$10)");
         check.is(x.copy(0, 0, 0, 59), 0);
         check.is(x.words(0, 59), "=FIND(N1,$E$10)");
+        Check.tell(x, "A2", "=CHOICE(F10,E10,F9)");
+        check.is(x.copy(0, 6, 0, 7), 2);
+        check.is(Check.words(x, "B2"), "=CHOICE(?,F10,?)");
+        check.is(x.copy(0, 6, 0, 12), 2);
+        check.is(Check.words(x, "A3"), "=CHOICE(?,?,F10)");
         Check.put(x, "A1", 5);
         check.is(x.copy(0, 0, 1, 59), 0);
         check.is(x.words(1, 59), "5q");
@@ -347,6 +352,8 @@ public final class ToldTest {
         x.lock(0, Check.at("D4"), true);
         check.fails(x, Check.STATE, () -> x.fill(0, Check.at("C3"), Check.at("E5")));
         check.fails(x, Check.STATE, () -> x.fill(0, Check.at("C4"), Check.at("C3")));
+        check.fails(x, Check.STATE, () -> x.fill(0, Check.at("B2"), Check.at("D4")));
+        check.is(x.fill(0, Check.at("D4"), Check.at("E5")), 3);
         check.fails(x, Check.INDEX, () -> x.fill(0, 60, 0));
         check.fails(x, Check.INDEX, () -> x.fill(0, 0, 60));
         check.fails(x, Check.INDEX, () -> x.fill(-1, 0, 0));

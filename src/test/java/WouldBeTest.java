@@ -179,6 +179,11 @@ public final class WouldBeTest {
         x.hold(true);
         Check.put(x, "B2", -7);
         check.is(x.digest(), digestOf(x));
+        // Values count cut to a whole number, 64 times as great, towards 0 also below it.
+        x.hold(false);
+        Check.tell(x, "C1", "=BY(-4q,12q)");
+        Check.tell(x, "C2", "=BY(400q,12q)");
+        check.is(x.digest(), digestOf(x));
     }
 
     private static long digestOf(TabulaWorks x) {
