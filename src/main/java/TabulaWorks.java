@@ -934,10 +934,14 @@ public final class TabulaWorks {
             System.arraycopy(other.quarters, 0, quarters, 0, PLACES);
             System.arraycopy(other.operands, 0, operands, 0, PLACES * OPERANDS);
             System.arraycopy(other.digits, 0, digits, 0, PLACES);
-            System.arraycopy(other.locked, 0, locked, 0, PLACES);
-            System.arraycopy(other.hidden, 0, hidden, 0, LINES);
             System.arraycopy(other.nameOne, 0, nameOne, 0, NAMES);
             System.arraycopy(other.nameTwo, 0, nameTwo, 0, NAMES);
+            for (int place = 0; place < PLACES; place++) {
+                locked[place] = other.locked[place];
+            }
+            for (int line = 0; line < LINES; line++) {
+                hidden[line] = other.hidden[line];
+            }
         }
 
         // -- what is held

@@ -244,20 +244,20 @@ public final class KeptTest {
     private static void everyCallIsKept() {
         check.promise(18);
         TabulaWorks x = new TabulaWorks();
-        for (int k = 0; k < 14; k++) {
+        for (int k = 0; k < Check.CHANGES; k++) {
             TabulaWorks y = new TabulaWorks();
             Check.put(y, "A2", 4);
             Check.tell(y, "B2", "=SUM(A1:A2)");
             y.name(0, 0, 0, 6);
-            long before = state(y);
-            change(y, k);
+            String before = Check.kept(y);
+            Check.change(y, k);
             check.is(y.many(2), 4);
-            long after = state(y);
-            check.is(after == before, k == 2);
+            String after = Check.kept(y);
+            check.is(after.equals(before), false);
             check.is(y.undo(), 3);
-            check.is(state(y), before);
+            check.is(Check.kept(y), before);
             check.is(y.redo(), 0);
-            check.is(state(y), after);
+            check.is(Check.kept(y), after);
         }
         check.is(x.many(2), 0);
         x.clear(0, 0);
@@ -268,42 +268,6 @@ public final class KeptTest {
         x.sort(0, 0, 9, 0, true);
         x.lock(0, 0, false);
         check.is(x.many(2), 7);
-    }
-
-    private static void change(TabulaWorks x, int nth) {
-        switch (nth) {
-            case 0: x.number(0, 0, 4); break;
-            case 1: x.formula(0, 0, 0, 0, 0, 0); break;
-            case 2: x.clear(0, 0); break;
-            case 3: x.copy(0, 6, 1, 0); break;
-            case 4: x.fill(0, 7, 20); break;
-            case 5: x.move(0, 6, 0, 8); break;
-            case 6: x.put(0, false, 0); break;
-            case 7: x.take(0, true, 1); break;
-            case 8: x.sort(0, 0, 1, 0, false); break;
-            case 9: x.filter(0, 0, 0); break;
-            case 10: x.hide(0, 3, true); break;
-            case 11: x.name(1, 0, 0, 0); break;
-            case 12: x.digits(0, 0, 0); break;
-            default: x.lock(0, 0, true); break;
-        }
-    }
-
-    /** All that is kept, but not how much is kept. */
-    private static long state(TabulaWorks x) {
-        long d = 0;
-        for (int sheet = 0; sheet < 2; sheet++) {
-            for (int cell = 0; cell < 60; cell++) {
-                d = d * 31 + x.words(sheet, cell).hashCode();
-                d = d * 31 + x.text(sheet, cell).hashCode();
-                d = d * 31 + x.ofCell(sheet, cell, 3) * 2 + x.ofCell(sheet, cell, 4);
-            }
-            d = d * 31 + x.ofSheet(sheet, 5);
-        }
-        for (int name = 0; name < 3; name++) {
-            d = d * 31 + x.ofName(name, 0) * 10000 + x.ofName(name, 1) * 100 + x.ofName(name, 2);
-        }
-        return d;
     }
 
     private static void rings() {

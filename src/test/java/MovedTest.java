@@ -84,7 +84,7 @@ public final class MovedTest {
     }
 
     private static String named(TabulaWorks x, int name) {
-        return x.ofName(name, 0) + " " + x.ofName(name, 1) + " " + x.ofName(name, 2);
+        return Check.named(x, name);
     }
 
     private static void movesOfNames() {
