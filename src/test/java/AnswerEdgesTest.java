@@ -17,15 +17,19 @@ public final class AnswerEdgesTest {
         goFarther();
         goneByThat();
         anotherPlace();
+        hiddenThen();
         wasHidden();
         namesAsOperands();
         digitsBefore();
         wasLocked();
         wasHeld();
         staleAhead();
+        keptStill();
+        refusedEver();
         valueOfNothing();
         kinds();
         functionsOfCells();
+        digitsLocksAndStale();
         neededEachOnce();
         neededByAll();
         neededBy();
@@ -33,7 +37,9 @@ public final class AnswerEdgesTest {
         deepNone();
         deepest();
         wordsOfNothing();
+        wordsOfFormulas();
         wordsOfOperands();
+        textOfErrors();
         textRounded();
         textSigns();
         textTooGreat();
@@ -41,11 +47,13 @@ public final class AnswerEdgesTest {
         greatestLines();
         hiddenSet();
         namesOfNothing();
+        manyCounts();
         manyCircles();
         manyDeep();
         groupsOfNone();
         groupsOfAll();
         groupKeys();
+        groupSums();
         wouldOfNothing();
         wouldWhenHeld();
         goalNearest();
@@ -55,6 +63,7 @@ public final class AnswerEdgesTest {
         breaksWhenHeld();
         breaksLocked();
         sound();
+        digestOrder();
         digestWraps();
         check.end();
     }
@@ -220,6 +229,24 @@ public final class AnswerEdgesTest {
         check.is(x.sort(0, 0, 9, 1, false), 0);
     }
 
+    private static void hiddenThen() {
+        check.says("Returns how many ROWS are HIDDEN then.");
+        TabulaWorks x = new TabulaWorks();
+        x.number(0, 0, 0);
+        x.number(0, 54, 0);
+        for (int row = 0; row < 10; row++) {
+            x.hide(0, row, true);
+            x.hide(1, row, true);
+        }
+        check.is(x.filter(0, 0, 0), 8);
+        check.is(x.filter(0, 0, 1), 10);
+        check.is(x.filter(0, 0, 0), 8);
+        x.fill(0, 0, 54);
+        check.is(x.filter(0, 0, 0), 0);
+        check.is(x.ofSheet(0, 5) * 10000 + x.ofSheet(1, 5), 1023);
+        check.is(x.filter(1, 5, 0), 10);
+    }
+
     private static void wasHidden() {
         check.says("HIDES a ROW, or not.");
         TabulaWorks x = new TabulaWorks();
@@ -315,6 +342,40 @@ public final class AnswerEdgesTest {
         check.is(x.reckon(), 0);
     }
 
+    private static void keptStill() {
+        check.says("Returns how many are kept to be undone still.");
+        check.says("Returns how many are kept to be done again still.");
+        TabulaWorks x = new TabulaWorks();
+        x.number(0, 0, 4);
+        check.is(x.undo(), 0);
+        check.is(x.redo(), 0);
+        for (int told = 0; told < 20; told++) {
+            x.number(0, 0, told);
+        }
+        for (int k = 7; k >= 0; k--) {
+            check.is(x.undo(), k);
+            check.is(x.redo(), 7 - k);
+            check.is(x.undo(), k);
+        }
+    }
+
+    private static void refusedEver() {
+        check.says("Returns how many were REFUSED ever, with this.");
+        TabulaWorks x = new TabulaWorks();
+        check.is(x.many(5), 0);
+        check.is(x.ring(), 1);
+        x.number(0, 0, 4);
+        x.undo();
+        check.is(x.ring(), 2);
+        check.fails(x, Check.INDEX, () -> x.number(0, 60, 4));
+        x.lock(0, 0, true);
+        check.fails(x, Check.STATE, () -> x.number(0, 0, 4));
+        check.is(x.ring(), 3);
+        for (int nth = 4; nth <= 500; nth++) {
+            check.is(x.ring(), nth);
+        }
+    }
+
     // ---- what is asked
 
     private static void valueOfNothing() {
@@ -358,6 +419,20 @@ public final class AnswerEdgesTest {
         }
         x.clear(0, 0);
         check.is(x.ofCell(0, 0, 2), -1);
+    }
+
+    private static void digitsLocksAndStale() {
+        check.says("3 DIGITS, 4 1 if it is LOCKED, otherwise 0, 5 1 if it is STALE, otherwise 0");
+        TabulaWorks x = new TabulaWorks();
+        check.is(x.ofCell(1, 59, 3) + " " + x.ofCell(1, 59, 4) + " " + x.ofCell(1, 59, 5), "2 0 0");
+        x.hold(true);
+        x.number(1, 59, 0);
+        x.digits(1, 59, 0);
+        x.lock(1, 59, true);
+        check.is(x.ofCell(1, 59, 3) + " " + x.ofCell(1, 59, 4) + " " + x.ofCell(1, 59, 5), "0 1 1");
+        check.is(x.ofCell(0, 59, 3) + " " + x.ofCell(0, 59, 4) + " " + x.ofCell(0, 59, 5), "2 0 0");
+        x.reckon();
+        check.is(x.ofCell(1, 59, 3) + " " + x.ofCell(1, 59, 4) + " " + x.ofCell(1, 59, 5), "0 1 0");
     }
 
     private static void neededEachOnce() {
@@ -513,6 +588,23 @@ public final class AnswerEdgesTest {
         check.is(x.words(1, 59), "");
     }
 
+    private static void wordsOfFormulas() {
+        check.says("of a FORMULA \"=\", the name of its FUNCTION as in section 1, \"(\", its OPERANDS with \",\" between two (of a "
+            + "RANGE \"ONE:TWO\" as one), and \")\". A NUMBER in it as above; a NAME \"N0\" to \"N2\"");
+        String[] names = {"PLUS", "LESS", "TIMES", "BY", "LESSER", "GREATER", "BELOW", "SAME", "CHOICE", "SUM", "COUNT", "MEAN",
+            "LEAST", "MOST", "SHOWN", "FIND"};
+        TabulaWorks x = new TabulaWorks();
+        for (int function = 0; function <= 15; function++) {
+            x.formula(0, 0, function, 1, 2, -1000);
+            String between = function < 9 ? "," : ":";
+            String third = function == 8 || function == 15 ? ",-500q" : "";
+            check.is(x.words(0, 0), "=" + names[function] + "(B1" + between + "C1" + third + ")");
+            x.formula(0, 0, function, 480, 481, 482);
+            String second = function < 9 ? ",N1" : "";
+            check.is(x.words(0, 0), "=" + names[function] + "(N0" + second + (third.isEmpty() ? "" : ",N2") + ")");
+        }
+    }
+
     private static void wordsOfOperands() {
         check.says("\"S\" and the number of its SHEET and \"!\", if that is not the FORMULA's own, then \"$\", if the COLUMN is "
             + "FIXED, its letter, \"$\", if the ROW is FIXED, and its name as a number; \"?\" alone, if it is GONE.");
@@ -531,6 +623,27 @@ public final class AnswerEdgesTest {
         check.is(x.words(1, 20), "=CHOICE(S0!$A$10,F$1,$F10)");
         Check.tell(x, "D5", "=CHOICE(-500q,0q,499q)");
         check.is(Check.words(x, "D5"), "=CHOICE(-500q,0q,499q)");
+    }
+
+    private static void textOfErrors() {
+        check.says("Returns what it shows: \"\" of nothing, \"!\" and the ERROR's number, or the double to its DIGITS");
+        TabulaWorks x = new TabulaWorks();
+        check.is(x.text(0, 0), "");
+        Check.put(x, "B1", 100000);
+        Check.tell(x, "B2", "=TIMES(B1,B1)");
+        String[] all = {"=PLUS(A1,0q)", "=BY(0q,0q)", "=SUM(N0)", "=FIND(C1:C1,0q)", "=TIMES(B2,B2)"};
+        for (int error = 1; error <= 5; error++) {
+            Check.tell(x, "A1", all[error - 1]);
+            for (int digits = 0; digits <= 2; digits++) {
+                x.digits(0, 0, digits);
+                check.is(x.text(0, 0), "!" + error);
+            }
+        }
+        x.hold(true);
+        x.clear(0, 0);
+        check.is(x.text(0, 0), "!5");
+        x.digits(0, 1, 0);
+        check.is(x.text(0, 1), "25000");
     }
 
     /** Shows a quotient of two numbers of quarters. */
@@ -678,6 +791,30 @@ public final class AnswerEdgesTest {
         check.is(x.ofName(1, 4), 0);
     }
 
+    private static void manyCounts() {
+        check.says("0 FORMULAS on both SHEETS, 1 OPERANDS that are GONE, 2 how many are kept to be undone, 3 to be done again, 4 1 if "
+            + "reckoning is HELD, otherwise 0, 5 how many were REFUSED");
+        TabulaWorks x = new TabulaWorks();
+        check.is(x.many(0) + x.many(1) + x.many(2) + x.many(3) + x.many(4) + x.many(5), 0);
+        x.formula(0, 1, 8, 0, 0, 0);
+        x.copy(0, 1, 0, 0);
+        x.fill(0, 0, 54);
+        x.copy(0, 1, 1, 0);
+        x.number(1, 59, 0);
+        // B1, the ten below A1 and S1!A1; each of the latter eleven has three that are gone, and B1 none.
+        check.is(x.many(0) + " " + x.many(1), "12 33");
+        x.undo();
+        x.undo();
+        check.is(x.many(0) + " " + x.many(1) + " " + x.many(2) + " " + x.many(3), "11 30 3 2");
+        x.hold(true);
+        x.ring();
+        check.is(x.many(4) + x.many(5), 2);
+        x.reckon();
+        check.is(x.many(4), 1);
+        x.hold(false);
+        check.is(x.many(4), 0);
+    }
+
     private static void manyCircles() {
         check.says("6 FORMULAS from which one comes back to themselves");
         TabulaWorks x = new TabulaWorks();
@@ -814,6 +951,23 @@ public final class AnswerEdgesTest {
         y.fill(0, 0, 54);
         check.is(y.value(0, 55), 1000000000.0);
         check.is(y.group(0, 0, 1, 0, 1), 10000000000.0);
+    }
+
+    private static void groupSums() {
+        check.says("0 its key, 1 the sum (from 0.0 on, from above), 2 how many ROWS it has");
+        TabulaWorks x = new TabulaWorks();
+        for (int row = 0; row < 3; row++) {
+            x.number(0, row * 18, -4);
+            x.formula(0, row * 18 + 1, 3, 4 * row - 496, -460, 0);
+        }
+        // Other orders of 0.1, 0.2 and 0.3 answer something else; one without another begins from 0.0.
+        check.is(x.value(0, 37), 0.3);
+        check.is(x.group(0, 0, 1, 0, 1), 0.1 + 0.2 + 0.3);
+        check.is(x.group(0, 1, 1, 2, 1), 0.3);
+        check.is(x.group(0, 0, 1, 0, 0) + " " + x.group(0, 0, 1, 0, 2), "-1.0 3.0");
+        x.hide(0, 0, true);
+        check.is(x.group(0, 0, 1, 0, 1), 0.2 + 0.3);
+        check.is(x.group(0, 0, 0, 0, 1), -2.0);
     }
 
     // ---- what would be
@@ -1046,6 +1200,45 @@ public final class AnswerEdgesTest {
         check.is(x.isSound(), false);
         x.undo();
         check.is(x.isSound(), true);
+    }
+
+    private static void digestOrder() {
+        check.says("for each v in this order: many() of 0 to 7; NAME by NAME ofName() of 0 to 4; SHEET by SHEET ofSheet() of 0 to 7, "
+            + "then CELL by CELL of those that hold something: its number, ofCell() of 0 to 9, 64 times value() (cut to a whole "
+            + "number), how many signs words() has, how many text() has; isSound() (1 or 0).");
+        // Each of them makes it another one.
+        TabulaWorks x = new TabulaWorks();
+        long[] seen = new long[12];
+        seen[0] = x.digest();
+        x.number(0, 0, 4);
+        seen[1] = x.digest();
+        x.move(0, 0, 0, 1);
+        seen[2] = x.digest();
+        x.number(0, 1, 5);
+        seen[3] = x.digest();
+        x.digits(0, 1, 0);
+        seen[4] = x.digest();
+        x.name(2, 1, 59, 58);
+        seen[5] = x.digest();
+        x.hide(1, 9, true);
+        seen[6] = x.digest();
+        x.ring();
+        seen[7] = x.digest();
+        x.hold(true);
+        seen[8] = x.digest();
+        x.formula(0, 1, 0, 1, -500, 0);
+        seen[9] = x.digest();
+        x.reckon();
+        seen[10] = x.digest();
+        x.lock(0, 59, true);
+        seen[11] = x.digest();
+        for (int k = 0; k < 12; k++) {
+            for (int n = 0; n < k; n++) {
+                check.is(seen[k] == seen[n], false);
+            }
+        }
+        check.is(new TabulaWorks().digest(), seen[0]);
+        check.is(seen[11], digestOf(x));
     }
 
     private static void digestWraps() {

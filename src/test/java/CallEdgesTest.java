@@ -46,6 +46,10 @@ public final class CallEdgesTest {
         formulas();
         notOneSheet();
         sortsBackwards();
+        lockedOnes();
+        lastHeld();
+        noneKept();
+        changesNothing();
         check.end();
     }
 
@@ -119,6 +123,13 @@ public final class CallEdgesTest {
     /** Each argument alone at its limits and beyond; then each two of them beyond theirs. */
     private static void call(int promise, String name, Part... parts) {
         check.promise(promise);
+        int[] throwing = new int[2];
+        for (Part part : parts) {
+            throwing[0] += part.thrown == Check.INDEX ? 1 : 0;
+            throwing[1] += part.thrown == Check.ARGUMENT ? 1 : 0;
+        }
+        check.is(check.promises(promise, "Throws `IndexOutOfBoundsException` if"), throwing[0] > 0);
+        check.is(check.promises(promise, "Throws `IllegalArgumentException` if"), throwing[1] > 0 || name.equals("sort"));
         int[] good = new int[parts.length];
         for (int k = 0; k < parts.length; k++) {
             good[k] = parts[k].good;
@@ -246,5 +257,105 @@ public final class CallEdgesTest {
         check.fails(x, Check.ARGUMENT, () -> x.sort(0, 1, 0, 0, true));
         check.fails(x, Check.STATE, () -> x.sort(0, 0, 1, 0, true));
         check.fails(x, Check.INDEX, () -> x.sort(0, 0, 10, 0, true));
+    }
+
+    private static void isLocked(String sentence, Check.Call call, TabulaWorks x) {
+        check.says("Throws `IllegalStateException` " + sentence);
+        check.fails(x, Check.STATE, call);
+    }
+
+    /** B2 is locked, and holds nothing; all the rest is let. */
+    private static void lockedOnes() {
+        TabulaWorks x = new TabulaWorks();
+        x.lock(0, 7, true);
+        isLocked("if it is LOCKED", () -> x.number(0, 7, 0), x);
+        isLocked("if it is LOCKED", () -> x.clear(0, 7), x);
+        isLocked("if the CELL is LOCKED", () -> x.formula(0, 7, 0, 0, 0, 0), x);
+        isLocked("if the CELL to which is LOCKED", () -> x.copy(1, 7, 0, 7), x);
+        isLocked("if one to which is LOCKED", () -> x.fill(0, 0, 7), x);
+        isLocked("if one of both is LOCKED", () -> x.move(0, 7, 1, 7), x);
+        isLocked("if one of both is LOCKED", () -> x.move(1, 7, 0, 7), x);
+        isLocked("if a CELL of it is LOCKED", () -> x.take(0, true, 1), x);
+        isLocked("if a CELL of it is LOCKED", () -> x.take(0, false, 1), x);
+        isLocked("if a CELL of these ROWS is LOCKED", () -> x.sort(0, 0, 1, 5, true), x);
+        isLocked("if a CELL of these ROWS is LOCKED", () -> x.sort(0, 1, 2, 5, true), x);
+        check.is(x.number(1, 7, 0) + x.formula(0, 6, 0, 0, 0, 0) + x.copy(0, 7, 0, 8) + x.fill(0, 7, 7), 0);
+        check.is(x.clear(0, 8), false);
+        check.is(x.move(0, 8, 0, 9) + x.take(0, true, 2) + x.take(0, false, 2) + x.sort(0, 2, 9, 0, true), 0);
+        // A2 has lost A1 twice, and B2 is B1 then, locked still.
+        check.is(x.take(0, true, 0), 2);
+        check.is(x.ofCell(0, 1, 4), 1);
+    }
+
+    private static void lastHeld() {
+        TabulaWorks x = new TabulaWorks();
+        x.number(0, 59, 0);
+        isLocked("if the last one is not EMPTY", () -> x.put(0, true, 0), x);
+        isLocked("if the last one is not EMPTY", () -> x.put(0, false, 0), x);
+        x.move(0, 59, 0, 58);
+        isLocked("if the last one is not EMPTY", () -> x.put(0, true, 9), x);
+        check.is(x.put(0, false, 5), 0);
+        x.move(0, 58, 0, 53);
+        isLocked("if the last one is not EMPTY", () -> x.put(0, false, 5), x);
+        check.is(x.put(0, true, 9), 0);
+    }
+
+    private static void noneKept() {
+        TabulaWorks x = new TabulaWorks();
+        isLocked("if none is kept", () -> x.undo(), x);
+        isLocked("if none is kept", () -> x.redo(), x);
+        x.lock(0, 0, false);
+        isLocked("if none is kept", () -> x.redo(), x);
+        check.is(x.undo(), 0);
+        isLocked("if none is kept", () -> x.undo(), x);
+        check.is(x.redo(), 0);
+        isLocked("if none is kept", () -> x.redo(), x);
+    }
+
+    /** Also nothing of what is kept: undoing and doing again go on as if the calls had not been. */
+    private static void changesNothing() {
+        check.says("A method that throws an exception changes nothing.");
+        TabulaWorks x = Check.sample();
+        TabulaWorks y = Check.sample();
+        for (TabulaWorks z : new TabulaWorks[] {x, y}) {
+            z.lock(0, 7, true);
+            z.number(0, 30, 4);
+            z.undo();
+            z.undo();
+            z.redo();
+            z.hold(true);
+        }
+        refusals(x);
+        check.fails(x, Check.STATE, () -> x.clear(1, 59));
+        check.fails(x, Check.STATE, () -> x.fill(1, 0, 59));
+        check.fails(x, Check.STATE, () -> x.take(1, true, 9));
+        check.fails(x, Check.STATE, () -> x.sort(1, 0, 9, 0, true));
+        for (int k = 0; k < 8; k++) {
+            check.is(Check.all(x), Check.all(y));
+            if (k == 0) {
+                check.is(x.redo(), y.redo());
+            } else {
+                check.is(x.undo(), y.undo());
+            }
+            refusals(x);
+        }
+        check.is(x.hold(false), true);
+        y.hold(false);
+        check.is(Check.all(x), Check.all(y));
+        check.is(x.digest(), y.digest());
+    }
+
+    private static void refusals(TabulaWorks x) {
+        check.fails(x, Check.INDEX, () -> x.number(0, 60, 100001));
+        check.fails(x, Check.INDEX, () -> x.name(0, 0, 0, 60));
+        check.fails(x, Check.INDEX, () -> x.hide(0, 10, true));
+        check.fails(x, Check.INDEX, () -> x.filter(0, 6, 0));
+        check.fails(x, Check.INDEX, () -> x.lock(2, 0, true));
+        check.fails(x, Check.ARGUMENT, () -> x.digits(0, 0, 3));
+        check.fails(x, Check.ARGUMENT, () -> x.formula(0, 0, 9, 0, 60, 0));
+        check.fails(x, Check.ARGUMENT, () -> x.sort(0, 1, 0, 0, true));
+        check.fails(x, Check.ARGUMENT, () -> x.ofCell(0, 0, 10));
+        check.fails(x, Check.ARGUMENT, () -> x.goal(0, 0, 0, 0, 100001));
+        check.fails(x, Check.INDEX, () -> x.breaks(0, true, 10));
     }
 }

@@ -6,6 +6,7 @@ public final class CellEdgesTest {
     }
 
     public static void main(String[] args) {
+        inOrder();
         noMinusZero();
         underflow();
         lastCalls();
@@ -61,6 +62,35 @@ public final class CellEdgesTest {
     }
 
     // ---- what stands ahead of section 1
+
+    /** Quotients, products and sums to the last bit, as Java reckons them one after the other. */
+    private static void inOrder() {
+        check.says("doubles are reckoned just in the order that is told (as Java does;");
+        TabulaWorks x = new TabulaWorks();
+        double[] told = {0.1, 0.7, 1.0 / 3.0, -2.0 / 3.0, 7.7};
+        int[] ones = {4, 28, 4, -8, 308};
+        int[] twos = {40, 40, 12, 12, 40};
+        for (int k = 0; k < told.length; k++) {
+            x.formula(0, k * 6, 3, ones[k] - 500, twos[k] - 500, 0);
+            check.is(x.value(0, k * 6), ones[k] / 4.0 / (twos[k] / 4.0));
+        }
+        for (int k = 0; k < 25; k++) {
+            double one = x.value(0, k / 5 * 6);
+            double two = x.value(0, k % 5 * 6);
+            String operands = "(A" + (k / 5 + 1) + ",A" + (k % 5 + 1) + ")";
+            check.is(value(x, "=PLUS" + operands), one + two);
+            check.is(value(x, "=LESS" + operands), one - two);
+            check.is(value(x, "=TIMES" + operands), one * two);
+            check.is(value(x, "=BY" + operands), one / two);
+        }
+        double sum = 0.0;
+        for (int k = 0; k < 5; k++) {
+            sum = sum + x.value(0, k * 6);
+        }
+        check.is(value(x, "=SUM(A1:A5)"), sum);
+        check.is(value(x, "=MEAN(A1:A5)"), sum / 5.0);
+        check.is(x.group(0, 0, 0, 0, 0), x.value(0, 18));
+    }
 
     private static void noMinusZero() {
         check.says("there is no -0.0: it is 0.0 at once, wherever it comes about");

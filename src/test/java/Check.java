@@ -29,10 +29,22 @@ final class Check {
     /** What follows holds this sentence (or part of one), which must stand in the document word by word. */
     void says(String sentence) {
         heading = "\"" + sentence + "\"";
+        is(document().contains(sentence), true);
+    }
+
+    /** Whether the part of the document under a promise's heading has these words. */
+    boolean promises(int number, String words) {
+        String all = document();
+        int start = all.indexOf("## Promise " + number + ": ");
+        int end = all.indexOf("## ", start + 3);
+        return all.substring(start, end).contains(words);
+    }
+
+    private String document() {
         if (document.isEmpty()) {
             document = readDocument();
         }
-        is(document.contains(sentence), true);
+        return document;
     }
 
     private static String readDocument() {
@@ -46,8 +58,13 @@ final class Check {
     void is(Object got, Object want) {
         seen++;
         if (!got.equals(want)) {
-            say("answered " + got + ", due is " + want);
+            say("answered " + brief(got) + ", due is " + brief(want));
         }
+    }
+
+    private static String brief(Object told) {
+        String words = String.valueOf(told);
+        return words.length() < 200 ? words : words.substring(0, 200) + "..";
     }
 
     /** The call must throw just that, and leave the object as it was. */
