@@ -156,88 +156,6 @@ public final class RandomRuns {
         return new int[] {bad(sheet, 0, 1), cell(), function, one, two, operand(sheet)};
     }
 
-    private static Object onClass(TabulaWorks x, String call, int[] a) {
-        try {
-            switch (call) {
-                case "number": return x.number(a[0], a[1], a[2]);
-                case "formula": return x.formula(a[0], a[1], a[2], a[3], a[4], a[5]);
-                case "clear": return x.clear(a[0], a[1]);
-                case "copy": return x.copy(a[0], a[1], a[2], a[3]);
-                case "fill": return x.fill(a[0], a[1], a[2]);
-                case "move": return x.move(a[0], a[1], a[2], a[3]);
-                case "put": return x.put(a[0], a[1] == 1, a[2]);
-                case "take": return x.take(a[0], a[1] == 1, a[2]);
-                case "sort": return x.sort(a[0], a[1], a[2], a[3], a[4] == 1);
-                case "filter": return x.filter(a[0], a[1], a[2]);
-                case "hide": return x.hide(a[0], a[1], a[2] == 1);
-                case "name": return x.name(a[0], a[1], a[2], a[3]);
-                case "digits": return x.digits(a[0], a[1], a[2]);
-                case "lock": return x.lock(a[0], a[1], a[2] == 1);
-                case "hold": return x.hold(a[0] == 1);
-                case "reckon": return x.reckon();
-                case "undo": return x.undo();
-                case "redo": return x.redo();
-                case "ring": return x.ring();
-                case "value": return x.value(a[0], a[1]);
-                case "ofCell": return x.ofCell(a[0], a[1], a[2]);
-                case "words": return x.words(a[0], a[1]);
-                case "text": return x.text(a[0], a[1]);
-                case "ofSheet": return x.ofSheet(a[0], a[1]);
-                case "ofName": return x.ofName(a[0], a[1]);
-                case "many": return x.many(a[0]);
-                case "group": return x.group(a[0], a[1], a[2], a[3], a[4]);
-                case "would": return x.would(a[0], a[1], a[2], a[3], a[4]);
-                case "goal": return x.goal(a[0], a[1], a[2], a[3], a[4]);
-                case "breaks": return x.breaks(a[0], a[1] == 1, a[2]);
-                case "isSound": return x.isSound();
-                default: return x.digest();
-            }
-        } catch (RuntimeException e) {
-            return e.getClass().getName();
-        }
-    }
-
-    private static Object onModel(PlainModel x, String call, int[] a) {
-        try {
-            switch (call) {
-                case "number": return x.number(a[0], a[1], a[2]);
-                case "formula": return x.formula(a[0], a[1], a[2], a[3], a[4], a[5]);
-                case "clear": return x.clear(a[0], a[1]);
-                case "copy": return x.copy(a[0], a[1], a[2], a[3]);
-                case "fill": return x.fill(a[0], a[1], a[2]);
-                case "move": return x.move(a[0], a[1], a[2], a[3]);
-                case "put": return x.put(a[0], a[1] == 1, a[2]);
-                case "take": return x.take(a[0], a[1] == 1, a[2]);
-                case "sort": return x.sort(a[0], a[1], a[2], a[3], a[4] == 1);
-                case "filter": return x.filter(a[0], a[1], a[2]);
-                case "hide": return x.hide(a[0], a[1], a[2] == 1);
-                case "name": return x.name(a[0], a[1], a[2], a[3]);
-                case "digits": return x.digits(a[0], a[1], a[2]);
-                case "lock": return x.lock(a[0], a[1], a[2] == 1);
-                case "hold": return x.hold(a[0] == 1);
-                case "reckon": return x.reckon();
-                case "undo": return x.undo();
-                case "redo": return x.redo();
-                case "ring": return x.ring();
-                case "value": return x.value(a[0], a[1]);
-                case "ofCell": return x.ofCell(a[0], a[1], a[2]);
-                case "words": return x.words(a[0], a[1]);
-                case "text": return x.text(a[0], a[1]);
-                case "ofSheet": return x.ofSheet(a[0], a[1]);
-                case "ofName": return x.ofName(a[0], a[1]);
-                case "many": return x.many(a[0]);
-                case "group": return x.group(a[0], a[1], a[2], a[3], a[4]);
-                case "would": return x.would(a[0], a[1], a[2], a[3], a[4]);
-                case "goal": return x.goal(a[0], a[1], a[2], a[3], a[4]);
-                case "breaks": return x.breaks(a[0], a[1] == 1, a[2]);
-                case "isSound": return x.isSound();
-                default: return x.digest();
-            }
-        } catch (RuntimeException e) {
-            return e.getClass().getName();
-        }
-    }
-
     private String nextCall() {
         boolean isBack = last.equals("undo") || last.equals("redo");
         last = isBack && random.nextInt(2) == 0 ? random.nextBoolean() ? "undo" : "redo" : anyCall();
@@ -281,7 +199,7 @@ public final class RandomRuns {
             for (int cell = 0; cell < 60; cell++) {
                 int[] a = {sheet, cell};
                 for (String call : new String[] {"value", "words", "text"}) {
-                    isSame &= isSame(call, a, onClass(x, call, a), onModel(y, call, a), seed, nth);
+                    isSame &= isSame(call, a, ByName.call(x, call, a), ByName.call(y, call, a), seed, nth);
                 }
             }
         }
@@ -295,7 +213,7 @@ public final class RandomRuns {
         for (int nth = 0; nth < calls; nth++) {
             String call = runs.nextCall();
             int[] a = runs.arguments(call);
-            if (!isSame(call, a, onClass(x, call, a), onModel(y, call, a), seed, nth)) {
+            if (!isSame(call, a, ByName.call(x, call, a), ByName.call(y, call, a), seed, nth)) {
                 return false;
             }
             boolean isLast = nth % 40 == 39 || nth == calls - 1;

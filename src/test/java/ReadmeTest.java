@@ -1,6 +1,5 @@
 import java.io.File;
 import java.io.IOException;
-import java.lang.reflect.InvocationTargetException;
 import java.lang.reflect.Method;
 import java.lang.reflect.Modifier;
 import java.nio.file.Files;
@@ -53,28 +52,16 @@ public final class ReadmeTest {
 
     private static String answer(TabulaWorks works, String name, String told) {
         String[] words = told.isEmpty() ? new String[0] : told.split(", ");
-        Object[] arguments = new Object[words.length];
+        int[] arguments = new int[words.length];
         for (int k = 0; k < words.length; k++) {
             boolean isWhether = words[k].equals("true") || words[k].equals("false");
-            arguments[k] = isWhether ? (Object) Boolean.valueOf(words[k]) : (Object) Integer.valueOf(words[k]);
+            arguments[k] = isWhether ? words[k].equals("true") ? 1 : 0 : Integer.parseInt(words[k]);
         }
-        try {
-            Object got = method(name).invoke(works, arguments);
-            return "answers " + (got instanceof String ? "\"" + got + "\"" : String.valueOf(got));
-        } catch (InvocationTargetException e) {
-            return "throws " + e.getCause().getClass().getSimpleName();
-        } catch (IllegalAccessException e) {
-            return "no call of the face";
+        Object got = ByName.call(works, name, arguments);
+        if (got instanceof Class) {
+            return "throws " + ((Class<?>) got).getSimpleName();
         }
-    }
-
-    private static Method method(String name) {
-        for (Method method : TabulaWorks.class.getMethods()) {
-            if (method.getName().equals(name)) {
-                return method;
-            }
-        }
-        throw new IllegalArgumentException("no such call: " + name);
+        return "answers " + (got instanceof String ? "\"" + got + "\"" : String.valueOf(got));
     }
 
     /** The table of what there is names each call of the face, and no other. */
