@@ -1,5 +1,6 @@
 import java.lang.reflect.InvocationTargetException;
 import java.lang.reflect.Method;
+import java.lang.reflect.Modifier;
 
 /** Calls of the document's face by their names, on TabulaWorks and on PlainModel alike. */
 final class ByName {
@@ -25,7 +26,7 @@ final class ByName {
 
     private static Method method(Class<?> of, String name) {
         for (Method method : of.getDeclaredMethods()) {
-            if (method.getName().equals(name)) {
+            if (method.getName().equals(name) && !Modifier.isPrivate(method.getModifiers())) {
                 return method;
             }
         }
